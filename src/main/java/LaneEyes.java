@@ -31,16 +31,16 @@ public final class LaneEyes {
     private static final int ORDERS = 720;
     private static final int LOOKS_TO_LENGTHEN = 5;
 
-    private static final int DEPTH = 0;
-    private static final int GLARE = 1;
-    private static final int FAR = 2;
-    private static final int CROWD = 3;
-    private static final int TIRED = 4;
-    private static final int SKILL = 5;
-    private static final int LEGS = 6;
-    private static final int MOUTH = 7;
-    private static final int WAVES = 8;
-    private static final int SCREAMS = 9;
+    private static final int VALUE_DEPTH = 0;
+    private static final int VALUE_GLARE = 1;
+    private static final int VALUE_FAR = 2;
+    private static final int VALUE_CROWD = 3;
+    private static final int VALUE_TIRED = 4;
+    private static final int VALUE_SKILL = 5;
+    private static final int VALUE_LEGS = 6;
+    private static final int VALUE_MOUTH = 7;
+    private static final int VALUE_WAVES = 8;
+    private static final int VALUE_SCREAMS = 9;
     private static final int VALUES = 10;
 
     private static final int IN_NEEDS = 1;
@@ -80,6 +80,12 @@ public final class LaneEyes {
     private static final int FAULT_NO_VALUE = 3;
     private static final int FAULT_TOLD_CELL = 4;
     private static final int FAULT_SECOND = 5;
+
+    private static final int TOLD_CHAIR = 1;
+    private static final int TOLD_LAST = 2;
+    private static final int TOLD_TIRE = 4;
+    private static final int TOLD_NEEDS = 8;
+    private static final int TOLD_TROUBLE = 16;
 
     private static final Word[] WORDS = Word.values();
 
@@ -547,7 +553,7 @@ public final class LaneEyes {
     private enum Word {
         POOL("pool", 0, 0),
         DEEP("deep", 0, 0),
-        GLARING("glare", GLARE, IN_NEEDS | IN_TROUBLE),
+        GLARE("glare", VALUE_GLARE, IN_NEEDS | IN_TROUBLE),
         SWIMMER("swimmer", 0, 0),
         CHAIR("chair", 0, 0),
         LOOK("look", 0, 0),
@@ -561,15 +567,15 @@ public final class LaneEyes {
         OR("or", 0, 0),
         AND("and", 0, 0),
         NOT("not", 0, 0),
-        DEEPNESS("depth", DEPTH, IN_NEEDS | IN_TROUBLE),
-        FARNESS("far", FAR, IN_NEEDS | IN_TROUBLE),
-        CROWDED("crowd", CROWD, IN_NEEDS | IN_TROUBLE),
-        TIREDNESS("tired", TIRED, IN_NEEDS),
-        SKILFUL("skill", SKILL, IN_TROUBLE),
-        LEGGED("legs", LEGS, IN_GAME),
-        MOUTHED("mouth", MOUTH, IN_GAME),
-        WAVING("waves", WAVES, IN_GAME),
-        SCREAMING("screams", SCREAMS, IN_GAME);
+        DEPTH("depth", VALUE_DEPTH, IN_NEEDS | IN_TROUBLE),
+        FAR("far", VALUE_FAR, IN_NEEDS | IN_TROUBLE),
+        CROWD("crowd", VALUE_CROWD, IN_NEEDS | IN_TROUBLE),
+        TIRED("tired", VALUE_TIRED, IN_NEEDS),
+        SKILL("skill", VALUE_SKILL, IN_TROUBLE),
+        LEGS("legs", VALUE_LEGS, IN_GAME),
+        MOUTH("mouth", VALUE_MOUTH, IN_GAME),
+        WAVES("waves", VALUE_WAVES, IN_GAME),
+        SCREAMS("screams", VALUE_SCREAMS, IN_GAME);
 
         final String letters;
         final int value;
@@ -689,9 +695,7 @@ public final class LaneEyes {
         private final Tokens tokens = new Tokens();
         private long deepTold = 0;
         private long glareTold = 0;
-        private boolean chairTold = false;
-        private boolean lastTold = false;
-        private boolean tireTold = false;
+        private int onceTold = 0;
         private int ruleKind = 0;
         private int number = 0;
         private int spot = 0;
@@ -703,9 +707,7 @@ public final class LaneEyes {
             place = NONE;
             deepTold = 0;
             glareTold = 0;
-            chairTold = false;
-            lastTold = false;
-            tireTold = false;
+            onceTold = 0;
             tokens.begin(text, length);
             if (tokens.isWord(Word.POOL) && !readSize()) {
                 return false;
@@ -748,6 +750,25 @@ public final class LaneEyes {
             return true;
         }
 
+        /** The word of a line of which there may be so many. */
+        private boolean passOneMore(int have, int most) {
+            if (have >= most) {
+                return fail(FAULT_TOO_MUCH);
+            }
+            tokens.advance();
+            return true;
+        }
+
+        /** The word of a line that may be told but once. */
+        private boolean passOnce(int told) {
+            if ((onceTold & told) != 0) {
+                return fail(FAULT_SECOND);
+            }
+            onceTold |= told;
+            tokens.advance();
+            return true;
+        }
+
         private boolean passSpot(long told) {
             if (!passNumber(0, pool.width - 1)) {
                 return false;
@@ -784,16 +805,17 @@ public final class LaneEyes {
             }
             switch (word) {
                 case DEEP: return readDeep();
-                case GLARING: return readGlare();
+                case GLARE: return readGlare();
                 case SWIMMER: return readSwimmer();
                 case CHAIR: return readChair();
                 case LOOK: return readLook();
                 case LAST: return readLast();
                 case TIRE: return readTire();
                 case CASE: return readCase();
-                case NEEDS: return readRule(NEEDS_RULE, IN_NEEDS);
-                case TROUBLE: return readRule(TROUBLE_RULE, IN_TROUBLE);
-                case GAME: return readGame();
+                case NEEDS: return passOnce(TOLD_NEEDS) && readRule(NEEDS_RULE, IN_NEEDS);
+                case TROUBLE: return passOnce(TOLD_TROUBLE) && readRule(TROUBLE_RULE, IN_TROUBLE);
+                case GAME:
+                    return passOneMore(pool.games, MOST_GAMES) && readRule(FIRST_GAME_RULE + pool.games, IN_GAME);
                 default: return fail(FAULT_PLACE);
             }
         }
@@ -819,11 +841,7 @@ public final class LaneEyes {
         }
 
         private boolean readSwimmer() {
-            if (pool.swimmers >= MOST_SWIMMERS) {
-                return fail(FAULT_TOO_MUCH);
-            }
-            tokens.advance();
-            if (!passSpot(0) || !passNumber(0, 9)) {
+            if (!passOneMore(pool.swimmers, MOST_SWIMMERS) || !passSpot(0) || !passNumber(0, 9)) {
                 return false;
             }
             live.at[pool.swimmers] = spot;
@@ -833,12 +851,7 @@ public final class LaneEyes {
         }
 
         private boolean readChair() {
-            if (chairTold) {
-                return fail(FAULT_SECOND);
-            }
-            chairTold = true;
-            tokens.advance();
-            if (!passSpot(0)) {
+            if (!passOnce(TOLD_CHAIR) || !passSpot(0)) {
                 return false;
             }
             live.chair = spot;
@@ -846,11 +859,7 @@ public final class LaneEyes {
         }
 
         private boolean readLook() {
-            if (pool.looks >= MOST_LOOKS) {
-                return fail(FAULT_TOO_MUCH);
-            }
-            tokens.advance();
-            if (!passSpot(0) || !passNumber(1, MOST_SECONDS)) {
+            if (!passOneMore(pool.looks, MOST_LOOKS) || !passSpot(0) || !passNumber(1, MOST_SECONDS)) {
                 return false;
             }
             live.lookAt[pool.looks] = spot;
@@ -860,12 +869,7 @@ public final class LaneEyes {
         }
 
         private boolean readLast() {
-            if (lastTold) {
-                return fail(FAULT_SECOND);
-            }
-            lastTold = true;
-            tokens.advance();
-            if (!passNumber(1, 300)) {
+            if (!passOnce(TOLD_LAST) || !passNumber(1, 300)) {
                 return false;
             }
             pool.last = number;
@@ -873,12 +877,7 @@ public final class LaneEyes {
         }
 
         private boolean readTire() {
-            if (tireTold) {
-                return fail(FAULT_SECOND);
-            }
-            tireTold = true;
-            tokens.advance();
-            if (!passNumber(1, 99)) {
+            if (!passOnce(TOLD_TIRE) || !passNumber(1, 99)) {
                 return false;
             }
             pool.tire = number;
@@ -886,10 +885,9 @@ public final class LaneEyes {
         }
 
         private boolean readCase() {
-            if (pool.cases >= MOST_CASES) {
-                return fail(FAULT_TOO_MUCH);
+            if (!passOneMore(pool.cases, MOST_CASES)) {
+                return false;
             }
-            tokens.advance();
             for (int i = 0; i < 4; i++) {
                 if (!passNumber(0, 9)) {
                     return false;
@@ -907,25 +905,16 @@ public final class LaneEyes {
             return true;
         }
 
-        private boolean readGame() {
-            if (pool.games >= MOST_GAMES) {
-                return fail(FAULT_TOO_MUCH);
-            }
-            pool.games++;
-            return readRule(FIRST_GAME_RULE + pool.games - 1, IN_GAME);
-        }
-
         private boolean readRule(int rule, int kind) {
-            if (pool.rules.has(rule)) {
-                return fail(FAULT_SECOND);
-            }
-            tokens.advance();
             ruleKind = kind;
             pool.rules.open(rule);
             if (!readExpr(0)) {
                 return false;
             }
             pool.rules.close(rule);
+            if (kind == IN_GAME) {
+                pool.games++;
+            }
             return true;
         }
 
@@ -1087,7 +1076,7 @@ public final class LaneEyes {
                 code[size] = op;
                 size++;
             }
-            if (op == OP_VALUE - TIRED) {
+            if (op == OP_VALUE - VALUE_TIRED) {
                 tellsTired = true;
             }
         }
@@ -1472,11 +1461,11 @@ public final class LaneEyes {
             if (!pool.rules.has(NEEDS_RULE)) {
                 return keptTo(1 + far / 3 + pool.glare[cell], 1, MOST_NEED);
             }
-            values[DEPTH] = pool.depth[cell];
-            values[GLARE] = pool.glare[cell];
-            values[FAR] = far;
-            values[CROWD] = Integer.bitCount(whoIsIn(cell)) + extra;
-            values[TIRED] = pool.tire < 1 ? 0 : minutes / pool.tire;
+            values[VALUE_DEPTH] = pool.depth[cell];
+            values[VALUE_GLARE] = pool.glare[cell];
+            values[VALUE_FAR] = far;
+            values[VALUE_CROWD] = Integer.bitCount(whoIsIn(cell)) + extra;
+            values[VALUE_TIRED] = pool.tire < 1 ? 0 : minutes / pool.tire;
             return keptTo(pool.rules.gives(NEEDS_RULE, values), 1, MOST_NEED);
         }
 
@@ -1485,11 +1474,11 @@ public final class LaneEyes {
                 return 10 - pool.skill[swimmer];
             }
             int cell = live.at[swimmer];
-            values[SKILL] = pool.skill[swimmer];
-            values[DEPTH] = pool.depth[cell];
-            values[GLARE] = pool.glare[cell];
-            values[FAR] = pool.between(cell, live.chair);
-            values[CROWD] = Integer.bitCount(whoIsIn(cell));
+            values[VALUE_SKILL] = pool.skill[swimmer];
+            values[VALUE_DEPTH] = pool.depth[cell];
+            values[VALUE_GLARE] = pool.glare[cell];
+            values[VALUE_FAR] = pool.between(cell, live.chair);
+            values[VALUE_CROWD] = Integer.bitCount(whoIsIn(cell));
             return keptTo(pool.rules.gives(TROUBLE_RULE, values), 0, 99);
         }
 
@@ -1503,7 +1492,7 @@ public final class LaneEyes {
 
         private boolean saysFun(int game, int number) {
             for (int i = 0; i < 4; i++) {
-                values[LEGS + i] = pool.seen[4 * number + i];
+                values[VALUE_LEGS + i] = pool.seen[4 * number + i];
             }
             return pool.rules.gives(FIRST_GAME_RULE + game, values) != 0;
         }
