@@ -163,6 +163,13 @@ public final class ActsTest {
             CHECKS.due("swimmer", 0, eyes.swimmer(0, 0));
             eyes.heads(1, 1);
         }
+        eyes.restore();
+        eyes.forget();
+        eyes.heads(1, 0);
+        CHECKS.due("other heads", 2, eyes.missing(2));
+        eyes.restore();
+        CHECKS.due("the heads of the image", 0, eyes.missing(2));
+        CHECKS.due("the heads of the image", 2, eyes.missing(0));
         eyes.chair(2);
         eyes.image();
         eyes.chair(3);

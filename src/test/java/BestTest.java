@@ -137,6 +137,8 @@ public final class BestTest {
         CHECKS.due("tired 10 at 990", 989, all.swap());
         LaneEyes rest = Checks.told("pool 2 1;needs 3;last 9;swimmer 0 0 0;look 0 0 5;look 1 0 3;");
         CHECKS.due("never tired", 999, rest.swap());
+        LaneEyes soon = Checks.told("pool 2 1;tire 1;needs 1+5*tired;last 9;swimmer 0 0 0;look 0 0 5;look 1 0 3;");
+        CHECKS.due("tired at once", 0, soon.swap());
         LaneEyes bad = Checks.told("pool 2 1;needs 6;last 9;swimmer 0 0 0;look 0 0 5;look 1 0 3;");
         CHECKS.due("never good", -1, bad.swap());
     }

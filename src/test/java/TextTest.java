@@ -24,6 +24,7 @@ public final class TextTest {
             CHECKS.due("new glare", 0, eyes.cell(cell, 1));
         }
         CHECKS.due("new fault()", -1, eyes.fault());
+        CHECKS.dueThrow("new row(0)", Checks.NO_SUCH, () -> eyes.row(0));
         CHECKS.due("new restore()", false, eyes.restore());
     }
 
@@ -48,6 +49,33 @@ public final class TextTest {
         CHECKS.due("the first seven", 0, eyes.lanes(7));
         CHECKS.due("last", 7, eyes.count(5));
         CHECKS.due("the rest is gone", 0, eyes.count(14));
+        // "last 234deepdeepdeep": a word and a number that go on behind the text
+        for (int n = 0; n <= 20; n++) {
+            eyes.feed(0x6c617374, 0x20323334, 0x64656570, 0x64656570, 0x64656570);
+            CHECKS.due("cut at " + n, n == 0 ? 0 : 1, eyes.lanes(n));
+            CHECKS.due("place of the cut at " + n, n == 0 ? -1 : n < 4 ? 0 : n <= 8 ? n : 8, eyes.fault());
+        }
+        long700();
+    }
+
+    private static void long700() {
+        StringBuilder text = new StringBuilder("case 0 0 0 0 fun");
+        text.insert(0, " ".repeat(700 - text.length()));
+        fault(text.toString(), 1, 700);
+        text.setLength(0);
+        text.append("needs 1");
+        while (text.length() < 697) {
+            text.append("+1");
+        }
+        text.append(";  ");
+        LaneEyes eyes = new LaneEyes();
+        for (int times = 0; times < 4; times++) {
+            CHECKS.due("a long rule", 0, Checks.tell(eyes, text.toString()));
+            CHECKS.due("is worked off", 30, eyes.cell(0, 4));
+            CHECKS.due("a short one", 0, Checks.tell(eyes, "needs 2;game 0;case 1 1 1 1 fun;"));
+            CHECKS.due("is worked off", 2, eyes.cell(0, 4));
+            CHECKS.due("and the game", 1, eyes.game(0, 0));
+        }
     }
 
     private static void texts() {
@@ -66,6 +94,12 @@ public final class TextTest {
         noFault("pool 1 1;");
         noFault("pool 8 5;deep 7 4 1;glare 7 4 9;");
         noFault("deep 0000 0000 0001;");
+        noFault("glare 0 0 0;");
+        noFault("glare 0 0 9;");
+        noFault("deep 0 0 1;");
+        noFault("deep 0 0 9;");
+        noFault("last 1;tire 1;look 0 0 1;swimmer 0 0 0;");
+        noFault("last 300;tire 99;look 7 4 9;swimmer 7 4 9;chair 7 4;case 9 9 9 9 fun;");
         noFault("deep 0 0 1;glare 0 0 1;deep 1 0 1;");
         noFault("needs 1<2 and not 3=4 or depth*glare/far-crowd+tired;");
         noFault("trouble skill+depth+glare+crowd+far;");
@@ -90,6 +124,8 @@ public final class TextTest {
         fault("last 1;\u00e9", 1, 7);
         fault("last 1;  #", 1, 9);
         fault("lasts 1;", 1, 0);
+        fault("keep 0 0 1;", 1, 0);
+        fault("dee 0 0 1;", 1, 0);
         fault("or 1;", 1, 0);
         fault("depth 0 0 1;", 1, 0);
         fault("last", 1, 4);
@@ -207,6 +243,37 @@ public final class TextTest {
         fault("game skill;", 3, 5);
         fault("game tired;", 3, 5);
         fault("game 1;needs waves;", 3, 13);
+        fault("needs zebra;", 3, 6);
+        fault("needs a;", 3, 6);
+        fault("needs depthz;", 3, 6);
+        fault("needs `;", 1, 6);
+        fault("needs {;", 1, 6);
+        fault("needs 1:2;", 1, 7);
+        fault("needs 1\t;", 1, 7);
+        fault("needs 1\r;", 1, 7);
+        everyWordAsAValue();
+    }
+
+    private static void everyWordAsAValue() {
+        String[] words = {"pool", "deep", "swimmer", "chair", "look", "last", "tire", "case", "needs", "trouble", "game",
+            "fun", "or", "and"};
+        for (String word : words) {
+            fault("needs " + word + ";", 3, 6);
+            fault("trouble " + word + ";", 3, 8);
+            fault("game " + word + ";", 3, 5);
+            fault("needs 1+" + word + ";", 3, 8);
+        }
+        values("needs", "depth", "glare", "far", "crowd", "tired");
+        values("trouble", "depth", "glare", "far", "crowd", "skill");
+        values("game", "legs", "mouth", "waves", "screams");
+    }
+
+    private static void values(String rule, String... names) {
+        String[] all = {"depth", "glare", "far", "crowd", "tired", "skill", "legs", "mouth", "waves", "screams"};
+        for (String name : all) {
+            boolean may = java.util.Arrays.asList(names).contains(name);
+            fault(rule + " " + name + ";", may ? 0 : 3, may ? -1 : rule.length() + 1);
+        }
     }
 
     private static void whatAFaultLeaves() {
@@ -236,7 +303,7 @@ public final class TextTest {
 
     private static void whatATextEnds() {
         LaneEyes eyes = Checks.told("pool 3 2;deep 0 0 9;glare 0 0 9;swimmer 1 1 4;look 1 1 2;last 9;tire 5;"
-            + "needs 2;trouble 7;case 0 0 0 0 trouble;game 1;chair 2 1;");
+            + "needs 2;trouble 8;case 0 0 0 0 trouble;game 1;chair 2 1;");
         eyes.minutes(7);
         eyes.minutes(-1);
         eyes.dummy(5);
@@ -252,11 +319,16 @@ public final class TextTest {
         CHECKS.due("depth anew", 3, eyes.cell(0, 0));
         CHECKS.due("glare anew", 0, eyes.cell(0, 1));
         CHECKS.due("needs anew", 1, eyes.cell(0, 4));
+        CHECKS.due("needs anew", 4, eyes.cell(39, 4));
         CHECKS.due("trouble anew", 7, eyes.swimmer(0, 2));
         CHECKS.due("cases anew", 0, eyes.game(0, 1));
         CHECKS.dueThrow("the row is gone", Checks.NO_SUCH, () -> eyes.row(0));
         CHECKS.due("the image is gone", false, eyes.restore());
         CHECKS.due("acts are gone", -1, eyes.undo());
+        for (int times = 0; times < 2; times++) {
+            CHECKS.due("told once in each text", 0,
+                Checks.tell(eyes, "deep 0 0 1;glare 0 0 1;chair 0 0;last 1;tire 1;needs 1;trouble 1;"));
+        }
     }
 
     private static void noFault(String text) {

@@ -1,0 +1,55 @@
+import java.io.IOException;
+import java.nio.charset.StandardCharsets;
+import java.nio.file.Files;
+import java.nio.file.Path;
+import java.util.List;
+import java.util.regex.Matcher;
+import java.util.regex.Pattern;
+
+/** Rules of LANGUAGE.md that can be seen in the text of the class; .ci/run starts it where the project is. */
+public final class LanguageTest {
+    private static final String[] NEVER = {"->", "::", "\\btry\\b", "\\bcatch\\b", "\\bfinally\\b", "\\bsynchronized\\b",
+        "\\bassert\\b", "\\bpackage\\b", "\\bprotected\\b", "Exact\\(", "Object", "\\bSystem\\.(?!arraycopy\\()", "static \\{",
+        "\\bRandom\\b", "\\bThread\\b", "getMessage", "hashCode", "toString", "\" \\+", "\\+ \""};
+    private static final String MAY_BE_THROWN = "IllegalStateException|IllegalArgumentException|IndexOutOfBoundsException"
+        + "|ArithmeticException|UnsupportedOperationException|NoSuchElementException|RuntimeException";
+
+    public static void main(String[] args) throws IOException {
+        Checks checks = new Checks("LanguageTest");
+        String source = Files.readString(Path.of("src/main/java/LaneEyes.java"), StandardCharsets.ISO_8859_1);
+        String code = source.replaceAll("(?s)/\\*.*?\\*/", "").replaceAll("//[^\n]*", "");
+        for (String pattern : NEVER) {
+            checks.due("no " + pattern, false, Pattern.compile(pattern).matcher(code).find());
+        }
+        checks.due("signs are 1 to 127", true, source.chars().allMatch(sign -> sign >= 1 && sign <= 127));
+        Matcher imported = Pattern.compile("import ([^;]*);").matcher(code);
+        while (imported.find()) {
+            checks.due("import " + imported.group(1), true,
+                List.of("java.util.Arrays", "java.util.NoSuchElementException").contains(imported.group(1)));
+        }
+        Matcher thrown = Pattern.compile("throw ([^;]*);").matcher(code);
+        while (thrown.find()) {
+            checks.due("throw " + thrown.group(1), true,
+                thrown.group(1).matches("new (" + MAY_BE_THROWN + ")\\((\"[^\"]*\")?\\)"));
+        }
+        Matcher fields = Pattern.compile("\\bstatic (?!final )(?!int |boolean )[^(;{]*[;=]").matcher(code);
+        checks.due("static fields are final", false, fields.find());
+        methods(checks, code.split("\n"));
+        checks.end();
+    }
+
+    private static void methods(Checks checks, String[] lines) {
+        Pattern head = Pattern.compile("^( +)(?:[\\w\\[\\]]+ )+(\\w+)\\(([^)]*)\\)[^;={]*\\{$");
+        for (int i = 0; i < lines.length; i++) {
+            Matcher method = head.matcher(lines[i]);
+            if (method.matches() && !lines[i].contains("else") && !lines[i].contains("return")) {
+                int end = i;
+                while (end < lines.length && !lines[end].equals(method.group(1) + "}")) {
+                    end++;
+                }
+                checks.due(method.group(2) + " is short", true, end - i <= 60);
+                checks.due(method.group(2) + " has few parameters", true, method.group(3).split(",").length <= 7);
+            }
+        }
+    }
+}
