@@ -770,10 +770,11 @@ public final class LaneEyes {
         }
 
         private boolean passSpot(long told) {
-            if (!passNumber(0, pool.width - 1)) {
+            if (!isNumber(0, pool.width - 1)) {
                 return false;
             }
             spot = number;
+            tokens.advance();
             if (!isNumber(0, pool.height - 1)) {
                 return false;
             }
