@@ -1,13 +1,15 @@
 import java.nio.charset.StandardCharsets;
 
 /** What the project's tests share: a count of wrong answers, and texts fed as numbers. */
-final class Checks {
+class Checks {
     static final String NO_SUCH = "NoSuchElementException";
     static final String ILLEGAL = "IllegalArgumentException";
 
     private final String test;
     private int wrong = 0;
     private int made = 0;
+    /** What the checks that follow are about; stands before what each of them says. */
+    private String about = "";
 
     Checks(String test) {
         this.test = test;
@@ -17,11 +19,19 @@ final class Checks {
         long answer();
     }
 
+    void about(String what) {
+        about = what.isEmpty() ? "" : what + ": ";
+    }
+
+    int made() {
+        return made;
+    }
+
     void due(String what, long want, long got) {
         made++;
         if (got != want) {
             wrong++;
-            System.out.println(test + ": " + what + " answered " + got + ", due is " + want);
+            System.out.println(test + ": " + about + what + " answered " + got + ", due is " + want);
         }
     }
 
@@ -40,7 +50,7 @@ final class Checks {
         }
         if (!got.equals(name)) {
             wrong++;
-            System.out.println(test + ": " + what + " threw " + got + ", due is " + name);
+            System.out.println(test + ": " + about + what + " threw " + got + ", due is " + name);
         }
     }
 
