@@ -16,6 +16,7 @@ final class EdgesOfBest {
         away();
         swaps();
         crowds();
+        crowdsAsTheyAre();
         halves();
         both();
         orderCalls();
@@ -53,6 +54,12 @@ final class EdgesOfBest {
         order("pool 3 1;needs 2;swimmer 1 0 0;look 1 0 1;look 0 0 1;look 1 0 1;look 2 0 1;", 5, 0, 1, 3, 2);
         // each look goes with its seconds: 9 elsewhere on one side, 4 and 5 on the other
         order("pool 3 1;needs 1;swimmer 0 0 0;look 0 0 1;look 1 0 4;look 1 0 9;look 0 0 1;look 2 0 5;", 10, 0, 1, 4, 3, 2);
+        // look 1 must be far from look 0, so that look 2 comes before it
+        order("pool 2 1;needs 1;swimmer 0 0 0;look 0 0 1;look 0 0 1;look 1 0 3;look 1 0 3;", 4, 0, 2, 1, 3);
+        order("pool 2 1;needs 1;swimmer 0 0 0;" + "look 0 0 1;".repeat(3) + "look 1 0 3;".repeat(3), 4, 0, 3, 1, 4, 2, 5);
+        // looks 5 and 6 must be beside look 0 (need 3), and 2 beside 4 (need 2)
+        order("pool 3 1;needs 3-far;swimmer 0 0 0;swimmer 1 0 0;look 0 0 1;look 2 0 1;look 1 0 1;look 2 0 1;look 1 0 1;look 0 0 1;"
+            + "look 0 0 1;", 2 + 4 + 3, 0, 1, 2, 4, 3, 5, 6);
         order("pool 2 1;needs 1;swimmer 0 0 0;" + "look 0 0 1;".repeat(7), 1, 0, 1, 2, 3, 4, 5, 6);
         order("pool 2 1;needs 1;" + "look 1 0 2;".repeat(3), 0, 0, 1, 2);
 
@@ -189,6 +196,26 @@ final class EdgesOfBest {
         many("pool 2 1;look 0 0 1;", 40);
         many("pool 2 1;swimmer 0 0 0;", -1);
         many("", 40);
+    }
+
+    /** But for HOW MANY, a crowd is as it is: two are in the cell, so its need is 2. */
+    private void crowdsAsTheyAre() {
+        LaneEyes eyes = Checks.told("pool 2 1;needs crowd;swimmer 0 0 0;swimmer 0 0 0;look 0 0 5;look 1 0 3;last 8;");
+        says.due("NEED", 2, eyes.cell(0, 4));
+        says.due("delay", 6, eyes.delay(0, 4));
+        says.due("worst", 6, eyes.worst(0));
+        says.due("without", 2, eyes.without(1));
+        says.due("order", 6, eyes.order());
+        says.due("lengths", 4, eyes.lengths());
+        says.due("best", 6, eyes.best(1));
+        says.due("away", 2, eyes.away(0));
+        says.due("halves", 2, eyes.halves(1));
+        says.due("both", 2, eyes.two(2));
+        says.due("many", 1, eyes.many());
+        says.due("as it is still", 6, eyes.worst(0));
+        says.due("swap", 999, eyes.swap());
+        says.due("swap of LAST 6", 999, Checks.told("pool 2 1;needs crowd;swimmer 0 0 0;swimmer 0 0 0;look 0 0 5;look 1 0 3;last 6;").swap());
+        says.due("swap of LAST 5", -1, Checks.told("pool 2 1;needs crowd;swimmer 0 0 0;swimmer 0 0 0;look 0 0 5;look 1 0 3;last 5;").swap());
     }
 
     private void halves() {

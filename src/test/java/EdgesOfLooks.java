@@ -150,6 +150,13 @@ final class EdgesOfLooks {
         // two gaps, 3 and 5 seconds; and a stretch that is too short for a third
         LaneEyes gaps = Checks.told("pool 2 1;needs 2;look 0 0 2;look 1 0 3;look 0 0 2;look 1 0 2;look 0 0 1;look 1 0 2;");
         says.due("the greater gap", 1 + 5 + 2, gaps.cell(0, 5));
+        // 54 seconds elsewhere, 9 at cell 0, 45 elsewhere
+        LaneEyes middle = Checks.told("pool 2 1;needs 9;last 115;" + "look 1 0 9;".repeat(6) + "look 0 0 9;" + "look 1 0 9;".repeat(5));
+        says.due("from its first second on", 9, middle.delay(0, 54));
+        says.due("from its second one on", 8 + 45 + 54 + 9, middle.delay(0, 55));
+        says.due("from the last of the ROUND on", 1 + 54 + 9, middle.delay(0, 107));
+        says.due("the greatest", 116, middle.cell(0, 5));
+        says.due("one second is above LAST", 1, middle.cell(0, 6));
     }
 
     private void worstOfAll() {
@@ -177,6 +184,11 @@ final class EdgesOfLooks {
         }
         says.due("never, 108 seconds", 108, Checks.told("look 0 0 9;".repeat(12)).cell(1, 6));
         says.due("without LOOKS no second", 0, Checks.told("last 1;").cell(0, 6));
+        LaneEyes shorter = Checks.told("pool 2 1;needs 1;look 0 0 1;look 1 0 9;last 1;swimmer 0 0 0;");
+        says.due("a ROUND of 10", 9, shorter.cell(0, 6));
+        shorter.lasts(1, 1);
+        says.due("a ROUND of 2", 1, shorter.cell(0, 6));
+        says.due("of which two see all", 1, shorter.two(2));
     }
 
     private void actsKept() {

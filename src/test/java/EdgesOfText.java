@@ -219,6 +219,16 @@ final class EdgesOfText {
         says.fault("needs depTh;", 3, 6);
         says.fault("needsdepth;", 1, 0);
         says.noFault("needs depth+1or 2and not crowd;");
+        for (String line : LINES) {
+            String word = line.substring(0, line.indexOf(' '));
+            says.fault(line.replaceFirst("^.", "x"), 1, 0);
+            says.fault(line.replaceFirst(" ", "x "), 1, 0);
+            says.fault(line.replaceFirst(". ", " "), 1, 0);
+            says.fault(line.replaceFirst("^" + word, ""), 1, 1);
+        }
+        for (String value : new String[] {"xepth", "dexth", "deptx", "xar", "fax", "fxr"}) {
+            says.fault("needs " + value + ";", 3, 6);
+        }
 
         says.term(1, "NUMBERS (1 to 4 digits)");
         says.noFault("needs 0;");
@@ -531,6 +541,11 @@ final class EdgesOfText {
         says.noFault("needs (((((1)))));");
         says.noFault("needs (((((1)))))+(((((1)))));");
         says.noFault("needs ((((1))))*(1*(1*(1*(1*(1+1)))));");
+        // as many signs wait for their right side as can: 'or', 'and', <, + and * of each of six EXPRs
+        for (int inmost = 0; inmost <= 1; inmost++) {
+            String deepest = "0 or 1 and 1<1+1*(".repeat(5) + inmost + ")".repeat(5);
+            says.due(deepest, 1 - inmost, Checks.told("case 0 0 0 0 fun;game " + deepest + ";").game(0, 0));
+        }
         for (String first : new String[] {"1", "12345", "depth", "skill", "whale", "not", "or", "and", "pool", "needs", "("}) {
             says.fault("needs ((((((" + first, 2, 12);
             says.fault("trouble 1+(((((( " + first, 2, 17);
@@ -704,6 +719,7 @@ final class EdgesOfText {
         says.due("DEPTH", 3, eyes.cell(5, 0));
         says.due("GLARE", 0, eyes.cell(5, 1));
         says.due("NEED", 2, eyes.cell(5, 4));
+        toldAgain();
 
         says.promise(3, "or the FAULT (all stays)");
         LaneEyes stays = busy();
@@ -728,6 +744,30 @@ final class EdgesOfText {
         says.due("MINUTES", 0, gone.count(7));
         for (int what = 15; what <= 17; what++) {
             says.due("STATUS", 1, gone.count(what));
+        }
+    }
+
+    /** Nothing of a text, not even that it was told, is left when the next one comes. */
+    private void toldAgain() {
+        LaneEyes eyes = new LaneEyes();
+        String rule = "needs 1" + "+1".repeat(330) + ";";
+        for (int times = 0; times < 3; times++) {
+            says.due("a long rule", 0, Checks.tell(eyes, rule));
+            says.due("its NEED", 30, eyes.cell(0, 4));
+            says.due("all that is told once", 0, Checks.tell(eyes, "pool 2 2;deep 0 0 9;glare 0 0 9;chair 1 1;last 1;tire 1;needs 2;"
+                + "trouble 3;case 1 1 1 1 trouble;game 1;swimmer 0 0 9;look 0 0 9;"));
+            says.due("NEED", 2, eyes.cell(0, 4));
+            says.due("trouble", 3, eyes.swimmer(0, 2));
+            says.due("MISSED", 1, eyes.game(0, 1));
+            says.due("another", 0, Checks.tell(eyes, "case 1 1 1 1 fun;game 0;swimmer 0 0 9;"));
+            says.due("FALSE", 1, eyes.game(0, 0));
+            says.due("MISSED", 0, eyes.game(0, 1));
+            says.due("NEED without", 1, eyes.cell(0, 4));
+            says.due("trouble without", 1, eyes.swimmer(0, 2));
+            says.due("DEPTH without", 3, eyes.cell(0, 0));
+            says.due("GLARE without", 0, eyes.cell(0, 1));
+            says.due("THE CHAIR without", 0, eyes.count(4));
+            says.due("a FAULT behind much", 5, Checks.tell(eyes, "deep 0 0 9;glare 0 0 9;chair 1 1;tire 1;needs 2;trouble 3;last 1;last"));
         }
     }
 

@@ -674,11 +674,12 @@ final class EdgesOfTold {
         eyes.swim(0, 1);
         eyes.minutes(9);
         eyes.dummy(99);
-        eyes.heads(0, 0);
+        eyes.heads(0, 1);
+        eyes.heads(1, 0);
         eyes.image();
         disturb(eyes);
         says.due("restore()", true, eyes.restore());
-        stateIs("as at the other image", eyes, 1, 5, 4, 0, 1, 5, 3, 9, 2, 1, 99, 1, 1);
+        stateIs("as at the other image", eyes, 1, 5, 4, 0, 1, 5, 3, 9, 2, 1, 99, 2, 2);
         says.due("its ACTS are undone", 1, eyes.undo());
         says.due("MINUTES", 0, eyes.count(7));
         says.due("its ACTS are undone", 0, eyes.undo());
