@@ -7,7 +7,7 @@ public final class LaneEyes {
 
     private static final int SPENT = -2;
     /** Stands above every delay, so that "never" is the worst of all by itself. */
-    private static final int NEVER = Integer.MAX_VALUE;
+    private static final int NEVER = 0x7fffffff;
 
     private static final int MOST_BYTES = 700;
     private static final int MOST_CELLS = 40;
@@ -1697,7 +1697,8 @@ public final class LaneEyes {
             gather(live.chair, live.minutes, 0);
             int least = NEVER;
             int best = 0;
-            for (int lengths = 0; lengths < 1 << 2 * pool.looks; lengths++) {
+            int rows = 1 << 2 * Math.min(pool.looks, LOOKS_TO_LENGTHEN);
+            for (int lengths = 0; lengths < rows; lengths++) {
                 round.empty();
                 for (int i = 0; i < pool.looks; i++) {
                     round.add(live.lookAt[i], lengthOf(lengths, i));

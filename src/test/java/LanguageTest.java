@@ -1,8 +1,11 @@
 import java.io.IOException;
+import java.lang.reflect.Field;
+import java.lang.reflect.Modifier;
 import java.nio.charset.StandardCharsets;
 import java.nio.file.Files;
 import java.nio.file.Path;
 import java.util.List;
+import java.util.Set;
 import java.util.regex.Matcher;
 import java.util.regex.Pattern;
 
@@ -13,6 +16,11 @@ public final class LanguageTest {
         "\\bRandom\\b", "\\bThread\\b", "getMessage", "hashCode", "toString", "\" \\+", "\\+ \""};
     private static final String MAY_BE_THROWN = "IllegalStateException|IllegalArgumentException|IndexOutOfBoundsException"
         + "|ArithmeticException|UnsupportedOperationException|NoSuchElementException|RuntimeException";
+
+    private static final Pattern LIBRARY =
+        Pattern.compile("\\b(Integer|Long|Math|Arrays|System|String|Character|Byte|Boolean|Double)\\.\\w+");
+    private static final Set<String> MAY_BE_USED = Set.of("Integer.bitCount", "Long.bitCount", "Math.max", "Math.min",
+        "Math.abs", "Arrays.fill", "System.arraycopy");
 
     public static void main(String[] args) throws IOException {
         Checks checks = new Checks("LanguageTest");
@@ -34,8 +42,35 @@ public final class LanguageTest {
         }
         Matcher fields = Pattern.compile("\\bstatic (?!final )(?!int |boolean )[^(;{]*[;=]").matcher(code);
         checks.due("static fields are final", false, fields.find());
+        Matcher used = LIBRARY.matcher(code);
+        while (used.find()) {
+            checks.due("library: " + used.group(), true, MAY_BE_USED.contains(used.group()));
+        }
         methods(checks, code.split("\n"));
+        classes(checks);
         checks.end();
+    }
+
+    private static void classes(Checks checks) {
+        Class<?>[] inside = LaneEyes.class.getDeclaredClasses();
+        checks.due("some twelve classes", true, inside.length + 1 <= 12);
+        fields(checks, LaneEyes.class);
+        for (Class<?> one : inside) {
+            checks.due(one + " is static", true, Modifier.isStatic(one.getModifiers()));
+            fields(checks, one);
+        }
+    }
+
+    private static void fields(Checks checks, Class<?> of) {
+        int own = 0;
+        for (Field field : of.getDeclaredFields()) {
+            if (!Modifier.isStatic(field.getModifiers())) {
+                own++;
+            } else {
+                checks.due(field + " is final", true, Modifier.isFinal(field.getModifiers()));
+            }
+        }
+        checks.due(of + " has some twenty fields", true, own <= 20);
     }
 
     private static void methods(Checks checks, String[] lines) {
